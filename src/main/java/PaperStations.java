@@ -505,7 +505,7 @@ public final class PaperStations {
             stock = 0;
             issued = 0;
             box = 0;
-            for (int station = 0; station < amount && station < stations.length; station++) {
+            for (int station = 0; station < amount; station++) {
                 queue += stations[station].queue;
                 served += stations[station].served;
                 hoursWaited += stations[station].hoursWaited;
@@ -585,7 +585,6 @@ public final class PaperStations {
 
         void comeTo(int station) {
             dutyStation = station;
-            run = 0;
         }
 
         void leaveDuty(int endsToRest) {
@@ -599,7 +598,7 @@ public final class PaperStations {
                 hoursWorked++;
                 run++;
             }
-            if (restEnds > 0) {
+            if (rests()) {
                 restEnds--;
             }
         }

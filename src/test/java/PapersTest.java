@@ -116,6 +116,7 @@ public final class PapersTest {
         DUE.is("found", day.papers(0, 4), 12);
         DUE.is("undo()", day.undo(), 3);
         DUE.is("found", day.papers(0, 4), 5);
+        DUE.is("carried off still", day.papers(0, 3), 7);
     }
 
     private static void promise13CountBox() {
@@ -124,11 +125,11 @@ public final class PapersTest {
         DUE.is("countBox(0, -1)", day.countBox(0, -1), Days.BAD_VALUE);
         DUE.is("countBox(0, 100000)", day.countBox(0, 100000), Days.BAD_VALUE);
         day.carryOff(0, 3);
-        day.setArrivals(1, 5, 2);
+        day.setArrivals(1, 5, 1);
         day.pass(13);
         DUE.is("countBox(0, 1) at 14 without a queue", day.countBox(0, 1), Days.NOT_POSSIBLE);
         day.pass(1);
-        DUE.is("countBox(1, 1) with a queue", day.countBox(1, 1), Days.NOT_POSSIBLE);
+        DUE.is("countBox(1, 1) with one in the queue", day.countBox(1, 1), Days.NOT_POSSIBLE);
         DUE.is("countBox(1, 100000) BAD_VALUE ahead of it", day.countBox(1, 100000), Days.BAD_VALUE);
         DUE.is("countBox(0, 0)", day.countBox(0, 0), 1);
         DUE.is("latest count", day.papers(0, 6), 0);

@@ -15,6 +15,7 @@ public final class TellingTest {
         promise27Lacks();
         promise28Count();
         promise28Counts();
+        aFullDay();
         theConstants();
         DUE.end();
     }
@@ -90,6 +91,10 @@ public final class TellingTest {
         day.setArrivals(0, 2, 9);
         day.pass(1);
         DUE.is("40 by 10", day.station(0, 7), 4);
+        day.addClerk(1, 6);
+        day.relieve(0);
+        day.assign(1, 0);
+        DUE.is("40 by 1", day.station(0, 7), 40);
     }
 
     private static void promise21Papers() {
@@ -199,6 +204,12 @@ public final class TellingTest {
         DUE.is("busiest(3)", day.busiest(3), 0);
         DUE.is("busiest(4)", day.busiest(4), Days.NONE);
         DUE.is("busiest(max)", day.busiest(Integer.MAX_VALUE), Days.NONE);
+        day.setArrivals(3, 1, 1);
+        day.setArrivals(0, 1, 1);
+        day.pass(1);
+        DUE.is("busiest(1) by one more", day.busiest(1), 3);
+        DUE.is("busiest(2)", day.busiest(2), 1);
+        DUE.is("busiest(3)", day.busiest(3), 0);
         DUE.is("busiest(0) of none", new PaperStations().busiest(0), Days.NONE);
     }
 
@@ -270,6 +281,14 @@ public final class TellingTest {
         DUE.is("lacks(0) an hour later", day.lacks(0), 5);
         day.pass(17);
         DUE.is("lacks(0) at 18", day.lacks(0), 0);
+        PaperStations late = Days.withStations(1);
+        late.addClerk(1, 6);
+        late.setArrivals(0, 14, 40);
+        late.pass(14);
+        late.assign(0, 0);
+        DUE.is("lacks(0) until the hour 18 alone", late.lacks(0), 4);
+        late.pass(2);
+        DUE.is("lacks(0) with a queue that waits for papers", late.lacks(0), 2);
         PaperStations full = Days.withStations(1);
         Days.write(full, "500,500,500,500,500,500,500,500");
         full.readArrivals(0, 0);
@@ -325,6 +344,60 @@ public final class TellingTest {
         day.undo();
         DUE.is("count(10)", day.count(10), 1);
         DUE.is("count(11)", day.count(11), 2);
+    }
+
+    /** With no room left for one more station or clerk, each loop ends at the last one. */
+    private static void aFullDay() {
+        PaperStations day = Days.withStations(6);
+        for (int clerk = 0; clerk < 12; clerk++) {
+            day.addClerk(clerk + 1, 6);
+        }
+        for (int station = 0; station < 6; station++) {
+            day.setArrivals(station, 0, 100 - station);
+            day.supply(station, 1000);
+            day.assign(station + 6, station);
+        }
+        DUE.is("count(3)", day.count(3), 6);
+        DUE.is("count(4)", day.count(4), 6);
+        DUE.is("free(5)", day.free(5), 5);
+        DUE.is("free(6)", day.free(6), Days.NONE);
+        DUE.is("pass(7)", day.pass(7), 6 * (7 + 8 + 9 + 10 + 11 + 12) + 1 + 2 + 3 + 4 + 5 + 6);
+        numbers("count", countsOf(day), 7, 6, 12, 6, 0, 585 - 363, 363, 6000 - 363, 363, 363, 0, 0,
+            waitedOnAFullDay(), 42, 4, 0);
+        DUE.is("clerk(0, 2) came first", day.clerk(0, 2), 0);
+        DUE.is("clerk(5, 2) came last", day.clerk(5, 2), 5);
+        DUE.is("busiest(5)", day.busiest(5), 5);
+        DUE.is("busiest(6)", day.busiest(6), Days.NONE);
+        DUE.is("count(5) asked twice", day.count(5), 222);
+        DUE.is("queueIn(0, 5)", day.queueIn(0, 5), 52);
+        DUE.is("queueIn(0, 6) behind a change", day.queueIn(0, 6), 45);
+        DUE.is("queueIn(0, 11)", day.queueIn(0, 11), 10);
+        day.pass(8);
+        for (int station = 0; station < 6; station++) {
+            day.countBox(station, station);
+        }
+        DUE.is("count(10)", day.count(10), 0);
+        DUE.is("count(11) of the stations with an empty queue", day.count(11), emptyQueues(day));
+    }
+
+    private static int waitedOnAFullDay() {
+        int waited = 0;
+        for (int station = 0; station < 6; station++) {
+            int queue = 100 - station;
+            for (int hour = 0; hour < 7; hour++) {
+                queue -= hour < 6 ? station + 7 : station + 1;
+                waited += queue;
+            }
+        }
+        return waited;
+    }
+
+    private static int emptyQueues(PaperStations day) {
+        int empty = 0;
+        for (int station = 0; station < 6; station++) {
+            empty += day.station(station, 0) == 0 ? 1 : 0;
+        }
+        return empty;
     }
 
     private static void theConstants() {
