@@ -28,6 +28,20 @@ final class Days {
         return day;
     }
 
+    /** With a snapshot without stations, and with a text: so that a change of either is told. */
+    static PaperStations begun(int stations, int clerks) {
+        PaperStations day = new PaperStations();
+        write(day, "12,3");
+        for (int i = 0; i < clerks; i++) {
+            day.addClerk(10, 6);
+        }
+        day.keep();
+        for (int i = 0; i < stations; i++) {
+            day.addStation();
+        }
+        return day;
+    }
+
     static void write(PaperStations day, String text) {
         day.clearText();
         for (int i = 0; i < text.length(); i++) {

@@ -24,6 +24,10 @@ final class Due {
         }
     }
 
+    int checked() {
+        return checked;
+    }
+
     void end() {
         System.out.println(name + ": " + checked + " checked, " + wrong + " wrong");
         if (wrong != 0 || checked == 0) {

@@ -14,7 +14,7 @@ import java.util.regex.Matcher;
 import java.util.regex.Pattern;
 import java.util.stream.Collectors;
 
-/** The public face, and those rules of LANGUAGE.md that can be read off the source or the class. */
+/** The public face, and rules of LANGUAGE.md that can be read off the class or off the source. Takes its path. */
 public final class LanguageTest {
     private static final Due DUE = new Due("LanguageTest");
     private static final String[] FACE = {
@@ -34,9 +34,7 @@ public final class LanguageTest {
         constructor();
         fields();
         classesInside();
-        for (String file : args) {
-            source(Files.readString(Path.of(file)));
-        }
+        source(Files.readString(Path.of(args[0])));
         DUE.end();
     }
 
